@@ -1077,7 +1077,18 @@ public final class PolyglotPier {
     }
 
     private static boolean isMove(int op) {
-      return "zjcrtke".indexOf(op) >= 0;
+      switch (op) {
+        case 'z':
+        case 'j':
+        case 'c':
+        case 'r':
+        case 't':
+        case 'k':
+        case 'e':
+          return true;
+        default:
+          return false;
+      }
     }
 
     /** Does a code, or answers its fault. */
