@@ -1,89 +1,5 @@
-import java.util.NoSuchElementException;
-
 /** For each promise of the document: ordinary inputs, the edges that it names, and wrong inputs. */
-public final class PromiseTest {
-  private static final int ASH = 0;
-  private static final int BIRCH = 1;
-  private static final int CEDAR = 2;
-  private static final int LEAST = Integer.MIN_VALUE;
-  private static final int MOST = Integer.MAX_VALUE;
-  private static final Class<?> NO_INDEX = IndexOutOfBoundsException.class;
-  private static final Class<?> NO_ARGUMENT = IllegalArgumentException.class;
-  private static final Class<?> NO_STATE = IllegalStateException.class;
-  private static final Class<?> NO_ELEMENT = NoSuchElementException.class;
-  private static final Class<?> NO_OPERATION = UnsupportedOperationException.class;
-
-  private static int checks = 0;
-  private static int wrong = 0;
-
-  private interface Ask {
-    Object now();
-  }
-
-  private static void due(String what, Object got, Object wanted) {
-    checks++;
-    if (!got.equals(wanted)) {
-      wrong++;
-      System.out.println(what + " answered " + got + ", due is " + wanted);
-    }
-  }
-
-  private static void dueThrow(String what, Class<?> wanted, Ask ask) {
-    Object got;
-    try {
-      got = ask.now();
-    } catch (RuntimeException e) {
-      got = e.getClass();
-    }
-    due(what, got, wanted);
-  }
-
-  /** Adds a function with codes as in "l0 n-2 + r". */
-  private static int function(PolyglotPier x, int language, int parameters, String codes) {
-    int function = x.addFunction(language, parameters);
-    fill(x, function, codes);
-    return function;
-  }
-
-  private static void fill(PolyglotPier x, int function, String codes) {
-    for (String token : codes.trim().split(" +")) {
-      if (!token.isEmpty()) {
-        x.code(function, token.charAt(0), token.length() > 1 ? Integer.parseInt(token.substring(1)) : 0);
-      }
-    }
-  }
-
-  /** What a run of codes with two arguments comes to, as in "r i 5", "x d 3.0", "r e" or "l". */
-  private static String come(int language, String codes, int first, int second) {
-    PolyglotPier x = new PolyglotPier();
-    return told(x, function(x, language, 2, codes), first, second);
-  }
-
-  private static String come(int language, String codes) {
-    return come(language, codes, 0, 0);
-  }
-
-  private static String told(PolyglotPier x, int function, int first, int second) {
-    char outcome = x.run(function, first, second);
-    if (outcome == 'l') {
-      return "l";
-    }
-    char kind = x.resultKind();
-    String told = outcome + " " + kind;
-    if (kind == 'd') {
-      return told + " " + x.resultNumber();
-    }
-    return kind == 'i' || kind == 'j' || kind == 't' ? told + " " + x.resultWhole() : told;
-  }
-
-  private static String trace(PolyglotPier x) {
-    StringBuilder trace = new StringBuilder();
-    for (int i = 0; i < x.trace(); i++) {
-      trace.append(x.traceAt(i)).append(' ');
-    }
-    return trace.toString().trim();
-  }
-
+public final class PromiseTest extends Checks {
   // ---- functions and runs
 
   private static void promise1ANewObject() {
@@ -182,11 +98,8 @@ public final class PromiseTest {
     due("p of none", come(ASH, "p0"), "x d 3.0");
     due("r of none", come(BIRCH, "r"), "x i 3");
     due("t of none", come(BIRCH, "t"), "x i 3");
-    due("arguments of no meaning", told(new PolyglotPier(), 0), "r n");
-  }
-
-  private static String told(PolyglotPier x, int function) {
-    return told(x, function(x, BIRCH, function, "l0 r"), 7, 8);
+    PolyglotPier x = new PolyglotPier();
+    due("arguments of no meaning", told(x, function(x, BIRCH, 0, "l0 r"), 7, 8), "r n");
   }
 
   private static void promise5RunReckons() {
@@ -990,9 +903,6 @@ public final class PromiseTest {
     promise25Collect();
     promise26CollectRings();
     promises27To30Figures();
-    System.out.println(checks + " checks, " + wrong + " wrong");
-    if (wrong != 0) {
-      System.exit(1);
-    }
+    end();
   }
 }
