@@ -771,7 +771,7 @@ public final class PolyglotPier {
       tally();
       reachRoots(overBorder);
       // Each thing is pending once, so this ends when all that can be reached has been pending.
-      for (int next = 0; next < pendingCount; next++) {
+      for (int next = 0; next < THINGS && next < pendingCount; next++) {
         for (Value field : pending[next].fields) {
           reach(field, overBorder);
         }

@@ -187,6 +187,69 @@ public final class FunctionsTest extends Checks {
     due("0 / 0 with a double", come(BIRCH, "n0 h0 / r"), "r d NaN");
   }
 
+  // "in Ash of doubles; in Birch .. otherwise a double": infinite ones, the zeros, and what is not a number.
+  private static void doublesOfAllKinds() {
+    String[] ash = {"n0", "n0 n-1 *", "n1", "n-1", "h1", "n1 n0 /", "n-1 n0 /", "n0 n0 /"};
+    String[] birch = {"h0", "h0 n-1 *", "h2", "h-2", "h1", "n1 h0 /", "n-1 h0 /", "h0 h0 /"};
+    double[] values = {0.0, -0.0, 1.0, -1.0, 0.5, Double.POSITIVE_INFINITY, Double.NEGATIVE_INFINITY, Double.NaN};
+    for (int i = 0; i < values.length; i++) {
+      for (int j = 0; j < values.length; j++) {
+        for (char op : "+-*/".toCharArray()) {
+          String wanted = "r d " + reckoned(op, values[i], values[j]);
+          due(ash[i] + " " + ash[j] + " " + op, come(ASH, ash[i] + " " + ash[j] + " " + op + " r"), wanted);
+          due(birch[i] + " " + birch[j] + " " + op, come(BIRCH, birch[i] + " " + birch[j] + " " + op + " r"), wanted);
+        }
+        int less = values[i] < values[j] ? 1 : 0;
+        int same = values[i] == values[j] ? 1 : 0;
+        due(ash[i] + " < " + ash[j], come(ASH, ash[i] + " " + ash[j] + " < r"), "r " + number(ASH, less));
+        due(birch[i] + " < " + birch[j], come(BIRCH, birch[i] + " " + birch[j] + " < r"), "r " + number(BIRCH, less));
+        due(ash[i] + " = " + ash[j], come(ASH, ash[i] + " " + ash[j] + " = r"), "r " + number(ASH, same));
+        due(birch[i] + " = " + birch[j], come(BIRCH, birch[i] + " " + birch[j] + " = r"), "r " + number(BIRCH, same));
+      }
+    }
+  }
+
+  private static double reckoned(char op, double lower, double upper) {
+    return op == '+' ? lower + upper : op == '-' ? lower - upper : op == '*' ? lower * upper : lower / upper;
+  }
+
+  // Doubles as great as there are, their overflow to an infinite one, and as near to 0 as there are.
+  private static void greatestDoubles() {
+    String[] codes = {"g3", "g3 n-1 *", "g4", "g4 n-1 *", "g5", "n0", "n1"};
+    double[] values = {Double.MAX_VALUE, -Double.MAX_VALUE, Double.MIN_VALUE, -Double.MIN_VALUE,
+        Double.POSITIVE_INFINITY, 0.0, 1.0};
+    for (int i = 0; i < values.length; i++) {
+      for (int j = 0; j < values.length; j++) {
+        PolyglotPier x = withGreatestDoubles();
+        for (char op : "+-*/".toCharArray()) {
+          int function = function(x, ASH, 0, codes[i] + " " + codes[j] + " " + op + " r");
+          due(codes[i] + " " + codes[j] + " " + op, told(x, function), "r d " + reckoned(op, values[i], values[j]));
+        }
+        int less = function(x, ASH, 0, codes[i] + " " + codes[j] + " < r");
+        due(codes[i] + " < " + codes[j], told(x, less), "r " + number(ASH, values[i] < values[j] ? 1 : 0));
+      }
+    }
+    PolyglotPier x = withGreatestDoubles();
+    due("half of the least one is 0", told(x, function(x, ASH, 0, "g4 n2 / z6 n1 r n2 r")), "r d 2.0");
+    due("the least one is not", told(x, function(x, ASH, 0, "g4 z4 n1 r n2 r")), "r d 1.0");
+  }
+
+  /** Globals 3, 4 and 5 of Ash: the greatest double, the least one above 0, and the infinite one. */
+  private static PolyglotPier withGreatestDoubles() {
+    PolyglotPier x = new PolyglotPier();
+    x.set(ASH, 0, 2);
+    int square = function(x, ASH, 0, "g0 g0 * p0");
+    for (int i = 0; i < 9; i++) {
+      x.run(square, 0, 0);
+    }
+    // 2^1023 and 2^52, and of them 2^1023 - 2^971 + 2^1023.
+    x.run(function(x, ASH, 1, "g0 n2 / g0 * p1 l0 n-1024 * n2048 * p2"), LEAST, 0);
+    x.run(function(x, ASH, 0, "g1 g1 g2 / - g1 + p3 n1 g1 / n2 * g2 / p4 n1 n0 / p5"), 0, 0);
+    due("the greatest one", x.numberOf(ASH, 3), Double.MAX_VALUE);
+    due("the least one above 0", x.numberOf(ASH, 4), Double.MIN_VALUE);
+    return x;
+  }
+
   // "in Cedar of longs, which wrap".
   private static void longsWrap() {
     due("the greatest long", come(CEDAR, GREATEST + "r", LEAST, 0), "r j " + Long.MAX_VALUE);
@@ -256,6 +319,12 @@ public final class FunctionsTest extends Checks {
     }
     due("< of the greatest long and the one before", come(CEDAR, GREATEST + "s3 l3 n1 - l3 < r", LEAST, 0), "r j 1");
     due("< of the least long and the greatest one", come(CEDAR, LEAST_LONG + "s3 l3 l3 n1 - < r", LEAST, 0), "r j 1");
+    due("< of 1 and 1.5", come(BIRCH, "n1 h3 < r"), "r i 1");
+    due("< of 2 and 1.5", come(BIRCH, "n2 h3 < r"), "r i 0");
+    due("< of 1.5 and 1", come(BIRCH, "h3 n1 < r"), "r i 0");
+    due("< of 1.5 and 2", come(BIRCH, "h3 n2 < r"), "r i 1");
+    due("< of -1.5 and -1", come(BIRCH, "h-3 n-1 < r"), "r i 1");
+    due("< of -1 and -1.5", come(BIRCH, "n-1 h-3 < r"), "r i 0");
     due("< of half", come(ASH, "h1 n1 < r"), "r d 1.0");
     due("< of zeros", come(ASH, "n0 n-1 * n0 < r"), "r d 0.0");
     due("< of zeros", come(ASH, "n0 n0 n-1 * < r"), "r d 0.0");
@@ -665,6 +734,8 @@ public final class FunctionsTest extends Checks {
     highStack();
     intsOverflow();
     intsAndDoubles();
+    doublesOfAllKinds();
+    greatestDoubles();
     longsWrap();
     divisionCuts();
     divisionByZero();
